@@ -21,6 +21,11 @@ final class Check {
         due(what, is ? 1 : 0, 1);
     }
 
+    /** How many answers have been wrong so far. */
+    static int wrong() {
+        return wrong;
+    }
+
     /** Ends the test, with exit code 1 if an answer was wrong or none was looked at. */
     static void end() {
         System.out.println(looked + " answers, " + wrong + " of them wrong");
