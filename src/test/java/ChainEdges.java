@@ -80,7 +80,8 @@ final class ChainEdges {
 
     @Sentence(promise = 14, words = "Returns the number of the partition")
     @Broken(in = "int coverOf(", was = "return placeOf(cover)", is = "return placeOf(a)")
-    @Broken(in = "int coverOf(", was = "return placeOf(cover)", is = "return placeOf(cover) > 0 ? placeOf(cover) : NONE")
+    @Broken(in = "int coverOf(", was = "return placeOf(cover)",
+        is = "return placeOf(cover) > 0 ? placeOf(cover) : NONE")
     static void coversReturns() {
         for (int n = 2; n <= 8; n++) {
             UncrossedParts x = Edges.at(n);
@@ -255,7 +256,8 @@ final class ChainEdges {
     }
 
     @Sentence(promise = 16, words = "BAD if there is no such slot")
-    @Broken(in = "public int chains(", was = "intervalError(a, b)", is = "isSlot(a) || isSlot(b) ? intervalError(a, b) : no()")
+    @Broken(in = "public int chains(", was = "intervalError(a, b)",
+        is = "isSlot(a) || isSlot(b) ? intervalError(a, b) : no()")
     @Broken(in = "public int chains(", was = "intervalError(a, b)", is = "a > 5 ? BAD : intervalError(a, b)")
     @Broken(in = "int intervalError(", was = "return bad()", is = "return no()")
     @Broken(in = "int intervalError(", was = "!isSlot(b)", is = "!isSlot(b) && b < 2147483647")
@@ -399,7 +401,8 @@ final class ChainEdges {
     }
 
     @Sentence(promise = 18, words = "BAD if there is no such slot")
-    @Broken(in = "public int signed(", was = "intervalError(a, b)", is = "isSlot(a) || isSlot(b) ? intervalError(a, b) : no()")
+    @Broken(in = "public int signed(", was = "intervalError(a, b)",
+        is = "isSlot(a) || isSlot(b) ? intervalError(a, b) : no()")
     @Broken(in = "public int signed(", was = "intervalError(a, b)", is = "b > 5 ? BAD : intervalError(a, b)")
     @Broken(in = "int intervalError(", was = "!isSlot(a)", is = "!isSlot(a) && a < 2147483647")
     static void signedBad() {
@@ -454,7 +457,8 @@ final class ChainEdges {
     }
 
     @Sentence(promise = 19, words = "Returns the number of partitions")
-    @Broken(in = "int sizeOfProduct(", was = "CATALAN[sizeFrom(x)]", is = "sizeFrom(x) == 0 ? 1 : CATALAN[sizeFrom(x) - 1]")
+    @Broken(in = "int sizeOfProduct(", was = "CATALAN[sizeFrom(x)]",
+        is = "sizeFrom(x) == 0 ? 1 : CATALAN[sizeFrom(x) - 1]")
     @Broken(in = "int sizeOfProduct(", was = "int x = 0", is = "int x = 1")
     @Broken(in = "int sizeOfProduct(", was = "return product", is = "return product % 1430")
     @Broken(in = "CATALAN = {", was = "{1, 1,", is = "{1, 0,")

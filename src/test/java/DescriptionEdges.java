@@ -34,7 +34,8 @@ final class DescriptionEdges {
         + " d in the other one.")
     @Broken(in = "void uncomplement(", was = "complement.previous(y)", is = "complement.next(y)")
     @Broken(in = "int unite(", was = "lattice.join(", is = "lattice.meet(")
-    @Broken(in = "int unite(", was = "return putMade(s)", is = "made.copy(now.parts[s]); made.low[y] = made.low[x]; return putMade(s)")
+    @Broken(in = "int unite(", was = "return putMade(s)",
+        is = "made.copy(now.parts[s]); made.low[y] = made.low[x]; return putMade(s)")
     static void crossing() {
         UncrossedParts x = new UncrossedParts();
         x.puts(0, 0, 2);
@@ -193,7 +194,8 @@ final class DescriptionEdges {
         + " - 1).")
     @Broken(in = "int after(", was = ": 0", is = ": x")
     @Broken(in = "void turn(", was = "after(a.next(x), a.points)", is = "a.next(x)")
-    @Broken(in = "void turn(", was = "step[after(x, a.points)] = after(a.next(x), a.points)", is = "step[x] = a.next(x)")
+    @Broken(in = "void turn(", was = "step[after(x, a.points)] = after(a.next(x), a.points)",
+        is = "step[x] = a.next(x)")
     static void rotated() {
         UncrossedParts x = Edges.at(8);
         x.puts(0, 6, 7);

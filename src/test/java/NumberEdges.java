@@ -195,7 +195,8 @@ final class NumberEdges {
 
     @Sentence(promise = 21, words = "Converts the numbers from one kind to another one or the same.")
     @Broken(in = "public long as(", was = "j < 0", is = "j == k || j < 0")
-    @Broken(in = "void convert(", was = "given[n] = numbers[n - 1]", is = "given[n] = n < 8 || from != to ? numbers[n - 1] : 0")
+    @Broken(in = "void convert(", was = "given[n] = numbers[n - 1]",
+        is = "given[n] = n < 8 || from != to ? numbers[n - 1] : 0")
     @Broken(in = "void convert(", was = "remainder(to, n, wanted)", is = "remainder(to % 2, n, wanted)")
     static void asTheSame() {
         for (int j = 0; j < 3; j++) {
@@ -249,7 +250,8 @@ final class NumberEdges {
 
     @Sentence(promise = 21, words = "Returns the n-th number of kind k")
     @Broken(in = "public long as(", was = "return series.wanted[n]", is = "return (int) series.wanted[n]")
-    @Broken(in = "public long as(", was = "return series.wanted[n]", is = "return series.wanted[n] == BAD ? bad() : series.wanted[n]")
+    @Broken(in = "public long as(", was = "return series.wanted[n]",
+        is = "return series.wanted[n] == BAD ? bad() : series.wanted[n]")
     static void asReturns() {
         int[] all = {9, -9};
         for (int v : all) {

@@ -370,7 +370,8 @@ final class PartitionEdges {
 
     @Sentence(promise = 6, words = "Can be undone.")
     @Broken(in = "public int complements(", was = "past.prepare(board.now);", is = "")
-    @Broken(in = "public int complements(", was = "settled(board.putComplement(s, a))", is = "board.putComplement(s, a)")
+    @Broken(in = "public int complements(", was = "settled(board.putComplement(s, a))",
+        is = "board.putComplement(s, a)")
     @Broken(in = "public int complements(", was = "return", is = "return s == a ? board.putComplement(s, a) :")
     static void complementsUndone() {
         Edges.undone("complements(0, 0)", x -> x.complements(0, 0));

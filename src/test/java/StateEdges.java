@@ -84,7 +84,8 @@ final class StateEdges {
     @Broken(in = "int MOST_UNDONE", was = "5", is = "4")
     @Broken(in = "int MOST_UNDONE", was = "5", is = "6")
     @Broken(in = "void stepBack()", was = "next > 0 ? next - 1 : MOST_UNDONE", is = "next > 1 ? next - 1 : MOST_UNDONE")
-    @Broken(in = "void keep()", was = "held < MOST_UNDONE ? held + 1 : MOST_UNDONE", is = "held < MOST_UNDONE ? held + 1 : 1")
+    @Broken(in = "void keep()", was = "held < MOST_UNDONE ? held + 1 : MOST_UNDONE",
+        is = "held < MOST_UNDONE ? held + 1 : 1")
     static void latestFive() {
         for (int calls = 0; calls <= 8; calls++) {
             UncrossedParts x = new UncrossedParts();
@@ -136,7 +137,8 @@ final class StateEdges {
     }
 
     @Sentence(words = "If several error codes apply, the first one in this order is returned.")
-    @Broken(in = "public int type(", was = "if (c < 0", is = "if (orders.length >= MOST_TEXT) { fulls++; return FULL; } if (c < 0")
+    @Broken(in = "public int type(", was = "if (c < 0",
+        is = "if (orders.length >= MOST_TEXT) { fulls++; return FULL; } if (c < 0")
     @Broken(in = "public int mark(", was = "if (!isSlot(a) ||", is = "if (a == b) { return no(); } if (!isSlot(a) ||")
     @Broken(in = "int intervalError(", was = "return bad()",
         is = "return isSlot(b) && board.part(b).rank() == 0 ? no() : bad()")
@@ -213,7 +215,8 @@ final class StateEdges {
     @Broken(in = "public int covers(", was = "return board",
         is = "bads += board.lattice.coverOf(board.part(s), i) == NONE ? 1 : 0; return board")
     @Broken(in = "public int covers(", was = "return bad()", is = "return i > 28 ? NONE : bad()")
-    @Broken(in = "public int covers(", was = "if (", is = "if (isSlot(s) && board.part(s).rank() == 3) { return NONE; } if (")
+    @Broken(in = "public int covers(", was = "if (",
+        is = "if (isSlot(s) && board.part(s).rank() == 3) { return NONE; } if (")
     static void none() {
         Check.due("NONE", UncrossedParts.NONE, -1);
         UncrossedParts x = new UncrossedParts();
@@ -405,7 +408,8 @@ final class StateEdges {
     @Sentence(promise = 27, words = "It starts with h = 2413; for each of the following values, in this order, h becomes"
         + " 31 * h + value (with overflow)")
     @Broken(in = "public long digest()", was = "2413", is = "2414")
-    @Broken(in = "public long digest()", was = "return digestKind(h, 2, 0)", is = "return digestKind(h, 2, 0) & Long.MAX_VALUE")
+    @Broken(in = "public long digest()", was = "return digestKind(h, 2, 0)",
+        is = "return digestKind(h, 2, 0) & Long.MAX_VALUE")
     @Broken(in = "long digestSlot(", was = "long h = start", is = "long h = start % 1000000007")
     @Broken(in = "public long digest()", was = "h = 31 * h + board.amount", is = "h = 30 * h + board.amount")
     static void digestOverflows() {

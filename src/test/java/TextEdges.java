@@ -248,7 +248,8 @@ final class TextEdges {
     @Broken(in = "boolean readsOrder()", was = "skipBlanks();", is = "")
     @Broken(in = "boolean readsNumber(", was = "skipBlanks();", is = "")
     @Broken(in = "boolean readsNumber(", was = "int value = 0;", is = "int value = 0; skipBlanks();")
-    @Broken(in = "boolean readsNumber(", was = "digits++;", is = "digits++; if (found > 0) { at++; skipBlanks(); at--; }")
+    @Broken(in = "boolean readsNumber(", was = "digits++;",
+        is = "digits++; if (found > 0) { at++; skipBlanks(); at--; }")
     @Broken(in = "readsNumber(i, mayBe", was = "skipBlanks();", is = "if (wanted > 1) skipBlanks();")
     static void blanks() {
         orders("   n   5   ;   ", 1);
@@ -278,7 +279,8 @@ final class TextEdges {
 
     @Sentence(words = "they are needed only between two numbers of which the second one has no - before it (x1-5; is an"
         + " order).")
-    @Broken(in = "boolean readsNumber(", was = "skipBlanks();", is = "if (at < length && bytes[at] == '-') { return false; } skipBlanks();")
+    @Broken(in = "boolean readsNumber(", was = "skipBlanks();",
+        is = "if (at < length && bytes[at] == '-') { return false; } skipBlanks();")
     @Broken(in = "boolean readsNumber(", was = "digits < MOST_DIGITS", is = "digits < (found > 0 ? 1 : MOST_DIGITS)")
     static void neededBlanks() {
         orders("x1-5;", 1);
@@ -322,7 +324,8 @@ final class TextEdges {
     @Broken(in = "int fault()", was = "NONE : length", is = "NONE : 0")
     @Broken(in = "int fault()", was = "found > 0 ? NONE : length", is = "found > 0 || length == 0 ? NONE : length")
     @Broken(in = "int fault()", was = "return at", is = "return at < length ? at : length - 1")
-    @Broken(in = "int fault()", was = "found > 0 ? NONE : length", is = "found > 0 ? NONE : length < MOST_TEXT ? length : 119")
+    @Broken(in = "int fault()", was = "found > 0 ? NONE : length",
+        is = "found > 0 ? NONE : length < MOST_TEXT ? length : 119")
     static void tooEarly() {
         String order = "x1-5;";
         fault("", 0);
@@ -478,7 +481,8 @@ final class TextEdges {
     @Sentence(promise = 24, words = "If the text has a fault, or if one of the calls would return an error code when its"
         + " turn comes, nothing is done.")
     @Broken(in = "public int does()", was = "board.now.copy(past.prepared());", is = "")
-    @Broken(in = "public int does()", was = "board.now.copy(past.prepared());", is = "board.now.copy(past.prepared()); past.keep();")
+    @Broken(in = "public int does()", was = "board.now.copy(past.prepared());",
+        is = "board.now.copy(past.prepared()); past.keep();")
     @Broken(in = "public int does()", was = "fault != NONE", is = "fault != NONE && fault < orders.length")
     static void nothingIsDone() {
         nothingDone("n1;x1 1;n9;", -1002);
