@@ -67,7 +67,7 @@ public final class BrokenTest {
             }
             // The project's own classes are loaded once more, above the broken class.
             try (URLClassLoader loader = new URLClassLoader(urls.toArray(new URL[0]), ClassLoader.getPlatformClassLoader())) {
-                Method holds = loader.loadClass("EdgesTest").getMethod("holds", String.class, String.class);
+                Method holds = loader.loadClass("SentencesTest").getMethod("holds", String.class, String.class);
                 return (Boolean) holds.invoke(null, test.getDeclaringClass().getName(), test.getName());
             }
         }
@@ -93,9 +93,9 @@ public final class BrokenTest {
 
     private static List<Trial> trials() {
         List<Trial> trials = new ArrayList<>();
-        for (Method test : EdgesTest.tests()) {
+        for (Method test : SentencesTest.tests()) {
             Broken[] changes = test.getAnnotationsByType(Broken.class);
-            Check.holds("there is a change that breaks " + EdgesTest.name(test), changes.length > 0);
+            Check.holds("there is a change that breaks " + SentencesTest.name(test), changes.length > 0);
             for (Broken change : changes) {
                 trials.add(new Trial(test, change, trials.size()));
             }
@@ -107,7 +107,7 @@ public final class BrokenTest {
     private static void tell(List<Trial> trials) {
         int tried = 0;
         for (Trial trial : trials) {
-            String name = EdgesTest.name(trial.test) + ", broken by '" + trial.change.is() + "' in '" + trial.change.in() + "'";
+            String name = SentencesTest.name(trial.test) + ", broken by '" + trial.change.is() + "' in '" + trial.change.in() + "'";
             if (trial.isTried) {
                 tried++;
                 Check.holds(name + " " + trial.complaint, trial.complaint.isEmpty());

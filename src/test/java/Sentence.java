@@ -3,7 +3,7 @@ import java.lang.annotation.Retention;
 import java.lang.annotation.RetentionPolicy;
 import java.lang.annotation.Target;
 
-/** Marks the test of a sentence of the document (or of a part of one) that names a boundary case. */
+/** Marks the test of a sentence of the document, or of a part of one. */
 @Retention(RetentionPolicy.RUNTIME)
 @Target(ElementType.METHOD)
 @interface Sentence {

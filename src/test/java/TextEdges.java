@@ -189,7 +189,7 @@ final class TextEdges {
         fault("u0-1;", 2);
     }
 
-    @Sentence(words = "x n v (as number(); v may have a - before it)")
+    @Sentence(words = "and x n v (as number(); v may have a - before it)")
     @Broken(in = "boolean readsOrder()", was = "&& i == 1", is = "&& i >= 0")
     @Broken(in = "boolean readsOrder()", was = "letter == 'x' &&", is = "letter >= 'u' &&")
     @Broken(in = "boolean readsOrder()", was = "letter == 'x' && i == 1", is = "false")
