@@ -72,7 +72,8 @@ public final class ExamplesTest {
     @Broken(in = "public int marked(", was = "? 1 : 0", is = "? 0 : 1")
     @Broken(in = "boolean isLabels(", was = "rest % 10 > MOST_LABEL", is = "rest % 10 > 8")
     @Broken(in = "public int evens()", was = "no()", is = "bad()")
-    @Broken(in = "int putPlace(", was = "lattice.takePlace(made, now.points, k)", is = "lattice.takePlace(made, now.points, 0)")
+    @Broken(in = "int putPlace(", was = "lattice.takePlace(made, now.points, k)",
+        is = "lattice.takePlace(made, now.points, 0)")
     @Broken(in = "int property(", was = "return part.rank()", is = "return part.singles()")
     @Broken(in = "public int back()", was = "return past.held", is = "return past.held + 1")
     @Broken(in = "public long as(", was = "return BAD_LONG", is = "return BAD")

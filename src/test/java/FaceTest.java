@@ -113,7 +113,8 @@ public final class FaceTest {
     @Broken(in = "private boolean isLabels(", was = "private boolean isLabels(", is = "public boolean isLabels(")
     @Broken(in = "private static int choose(", was = "private static int choose(", is = "static int choose(")
     @Broken(in = "public int clear()", was = "public int clear()", is = "public synchronized int clear()")
-    @Broken(in = "public int evens()", was = "public int evens()", is = "public int evens(int n) { return n; } public int evens()")
+    @Broken(in = "public int evens()", was = "public int evens()",
+        is = "public int evens(int n) { return n; } public int evens()")
     static void methods() {
         Set<String> open = new TreeSet<>();
         for (Method m : FACE.getDeclaredMethods()) {
@@ -132,7 +133,8 @@ public final class FaceTest {
     }
 
     private static String signature(Method m) {
-        return m.getReturnType() + " " + m.getName() + Arrays.toString(m.getParameterTypes()).replace("[", "(").replace("]", ")");
+        String parameters = Arrays.toString(m.getParameterTypes());
+        return m.getReturnType() + " " + m.getName() + parameters.replace("[", "(").replace("]", ")");
     }
 
     /** A method's line without the names of its parameters, all of which are ints. */

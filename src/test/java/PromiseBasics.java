@@ -32,7 +32,8 @@ final class PromiseBasics {
         pairs(call + ", then of(2, 0)", numbered, due);
     }
 
-    private static long unless(boolean isPossible, long answer) {
+    /** The answer where the call is possible; NO elsewhere. */
+    private static long where(boolean isPossible, long answer) {
         return isPossible ? answer : UncrossedParts.NO;
     }
 
@@ -172,7 +173,8 @@ final class PromiseBasics {
     @Broken(in = "int chainsOfProduct(", was = "* LONG_CHAINS[size]", is = "")
     @Broken(in = "void complementInside(", was = "a.previous(upper.next(x))", is = "a.next(upper.next(x))")
     static void chains() {
-        pairs("chains(0, 1)", x -> x.chains(0, 1), (parts, a, b) -> unless(parts.under[a][b], parts.chains(a, b)));
+        pairs("chains(0, 1)", x -> x.chains(0, 1),
+            (parts, a, b) -> where(parts.under[a][b], parts.chains(a, b)));
     }
 
     @Sentence(promise = 17, words = "Counts the chains, from the partition in which every point is a block by itself to the"
@@ -199,7 +201,8 @@ final class PromiseBasics {
     @Broken(in = "int moebiusOfProduct(", was = "CATALAN[size - 1] :", is = "CATALAN[size] :")
     @Broken(in = "Part interval(", was = "now.parts[a], now.parts[b]", is = "now.parts[a], now.parts[a]")
     static void signed() {
-        pairs("signed(0, 1)", x -> x.signed(0, 1), (parts, a, b) -> unless(parts.under[a][b], parts.moebius(a, b)));
+        pairs("signed(0, 1)", x -> x.signed(0, 1),
+            (parts, a, b) -> where(parts.under[a][b], parts.moebius(a, b)));
     }
 
     @Sentence(promise = 19, words = "Counts the partitions C such that the partition of a slot is below C, and C is below the"
@@ -208,7 +211,8 @@ final class PromiseBasics {
     @Broken(in = "int sizeOfProduct(", was = "product *=", is = "product +=")
     @Broken(in = "Part interval(", was = "now.parts[a], now.parts[b]", is = "now.parts[b], now.parts[b]")
     static void between() {
-        pairs("between(0, 1)", x -> x.between(0, 1), (parts, a, b) -> unless(parts.under[a][b], parts.between(a, b)));
+        pairs("between(0, 1)", x -> x.between(0, 1),
+            (parts, a, b) -> where(parts.under[a][b], parts.between(a, b)));
     }
 
     @Sentence(promise = 20, words = "Changes a number.")
